@@ -1,3 +1,5 @@
+import java.util.Arrays;
+
 /** For each promise ordinary inputs, the edges that the document names, and what is refused. */
 public final class PromiseTests {
     private static final int NOTHING = 1, BEYOND = 2, UNLIKE = 3, NOUGHT = 4, SIZE = 5, CLASH = 6;
@@ -114,12 +116,15 @@ public final class PromiseTests {
         due("pages(9)", x.pages(9), 1);
         due("tight(12, 100)", x.tight(12, 100), 3);
         int tries = x.tries();
+        due("calls", x.calls(1, 3), 0);
+        due("calls", x.calls(0, 3), 0);
         int[][] bad = {{0, 1, 0}, {17, 1, 0}, {1, 0, 0}, {1, 7, 0}, {1, 1, -1}, {1, 1, 4}, {LEAST_INT, 1, 0},
             {MOST_INT, 1, 0}, {1, MOST_INT, 0}, {1, 1, MOST_INT}};
         for (int[] b : bad) {
             Due.refused("table of a wrong size", x, -1, () -> x.table(b[0], b[1], b[2]));
         }
         due("a refused table leaves clash()", x.clash(), 1);
+        due("drop", x.drop(0), 1);
         due("table(2, 3, 2)", x.table(2, 3, 2), 6);
         due("tries() stay", x.tries(), tries);
         due("finding() stays", x.finding(), CLASH);
@@ -307,6 +312,11 @@ public final class PromiseTests {
         due("two letters and a blank", x.want(0, 1), 3);
         due("words(0, 12) again", x.words(0, 12), 12);
         due("the old ones are gone", x.word(0, 11, 2), 1);
+        due("lines", x.lines(0, 2), 12);
+        due("a letter more", x.word(0, 11, 3), 2);
+        due("lines after word()", x.lines(0, 2), 13);
+        due("a letter less", x.word(0, 11, 2), 3);
+        due("lines after word()", x.lines(0, 2), 12);
         due("lines are those of now", x.lines(0, 1), 13);
         due("words(0, 0)", x.words(0, 0), 0);
         due("none", x.told(0, 5), 0);
@@ -390,6 +400,8 @@ public final class PromiseTests {
         due("16 by 3", x.mean(0), 5);
         due("word", x.word(0, 0, 7), 5);
         due("18 by 3", x.mean(0), 6);
+        due("words", x.words(0, 1), 1);
+        due("1 by 1", x.mean(0), 1);
         due("words", x.words(0, 0), 0);
         Due.found("mean of none", x, NOUGHT, () -> x.mean(0));
         Due.refused("mean(1)", x, -1, () -> x.mean(1));
@@ -555,6 +567,8 @@ public final class PromiseTests {
         widths("7 by 10, 3, 0: 5.38, 1.62", x, 9, 8, 5);
         due("set(30)", x.set(30), 2);
         widths("all of best", x, 14, 9, 5);
+        due("set(31)", x.set(31), 2);
+        widths("1 above best by 2, 1, 1: 0.5, 0.25, 0.25", x, 15, 9, 5);
         due("set(35)", x.set(35), 2);
         widths("5 above best by 2, 1, 1: 2.5, 1.25, 1.25", x, 17, 10, 6);
         due("set(400)", x.set(400), 2);
@@ -752,10 +766,10 @@ public final class PromiseTests {
         TableSetter x = of(lines.length, 1, 0);
         for (int row = 0; row < lines.length; row++) {
             int[] letters = new int[lines[row]];
-            java.util.Arrays.fill(letters, 1);
+            Arrays.fill(letters, 1);
             put(x, 0, row, 0, letters);
         }
-        due("set(1)", x.set(1), java.util.Arrays.stream(lines).sum());
+        due("set(1)", x.set(1), Arrays.stream(lines).sum());
         return x;
     }
 
@@ -778,6 +792,18 @@ public final class PromiseTests {
         x = rowsOf(2, 1, 1, 2, 2, 2);
         due("pages(5)", x.pages(5), 3);
         rowsOnPages("4, 4: 1 + 1 is less than 3, 5: 4 + 0", x, 0, 3, 2, 1);
+        x = rowsOf(5, 2, 3, 5);
+        due("pages(7)", x.pages(7), 3);
+        rowsOnPages("2, 2 is less than 0, 4 in squares alone", x, 0, 1, 2, 1);
+        x = rowsOf(3, 2, 3, 5);
+        due("pages(7)", x.pages(7), 3);
+        rowsOnPages("2, 4 and 4, 2 are alike: most rows first", x, 0, 2, 1, 1);
+        x = rowsOf(2, 2, 2, 2);
+        due("pages(7)", x.pages(7), 2);
+        rowsOnPages("1 ahead of the last, whatever that has", x, 0, 3, 1);
+        x = rowsOf(7, 5, 5, 7, 3, 3, 8, 2);
+        due("pages(12)", x.pages(12), 4);
+        rowsOnPages("0, 0, 6: 36; 5, 2, 2, 1: 34 has more pages", x, 0, 2, 2, 2, 2);
     }
 
     private static void pagesWithNotes() {
