@@ -5,6 +5,7 @@ import java.util.function.LongSupplier;
 final class Due {
     private static int wrong = 0;
     private static int seen = 0;
+    private static boolean quiet = false;
 
     private Due() {
     }
@@ -13,8 +14,29 @@ final class Due {
         seen++;
         if (got != want) {
             wrong++;
-            System.out.println(call + " answered " + got + ", due is " + want);
+            if (!quiet) {
+                System.out.println(call + " answered " + got + ", due is " + want);
+            }
         }
+    }
+
+    /** How many answers a test sees that are not due; one that it throws counts, too. */
+    static int wrongIn(Runnable test) {
+        int before = wrong;
+        try {
+            test.run();
+        } catch (RuntimeException thrown) {
+            due("a test that throws " + thrown, 1, 0);
+        }
+        return wrong - before;
+    }
+
+    static int seen() {
+        return seen;
+    }
+
+    static void hush() {
+        quiet = true;
     }
 
     /** A call refused with BAD, FULL or STATE: no finding is told, nothing changes. */
@@ -48,7 +70,7 @@ final class Due {
     }
 
     /** All that an object answers without a finding; clash() and tries(), which some refused calls set, aside. */
-    private static long[] picture(TableSetter x) {
+    static long[] picture(TableSetter x) {
         long[] all = new long[400];
         int n = 0;
         all[n++] = x.digest();

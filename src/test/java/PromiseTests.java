@@ -1,77 +1,5 @@
-import java.util.Arrays;
-
 /** For each promise ordinary inputs, the edges that the document names, and what is refused. */
-public final class PromiseTests {
-    private static final int NOTHING = 1, BEYOND = 2, UNLIKE = 3, NOUGHT = 4, SIZE = 5, CLASH = 6;
-    private static final int LEAST_INT = Integer.MIN_VALUE, MOST_INT = Integer.MAX_VALUE;
-
-    private static void due(String call, long got, long want) {
-        Due.due(call, got, want);
-    }
-
-    /** A new object with a table. */
-    private static TableSetter of(int r, int c, int g) {
-        TableSetter x = new TableSetter();
-        due("table(" + r + ", " + c + ", " + g + ")", x.table(r, c, g), r * c);
-        return x;
-    }
-
-    /** A cell on one place with pieces of these letters: its number. */
-    private static int put(TableSetter x, int kind, int row, int column, int... letters) {
-        return lay(x, kind, row, column, 1, 1, letters);
-    }
-
-    private static int lay(TableSetter x, int kind, int row, int column, int rows, int cols, int... letters) {
-        int cell = x.cell(kind, row, column, rows, cols);
-        due("a cell is made", cell >= 0 ? 1 : 0, 1);
-        due("words", x.words(cell, letters.length), letters.length);
-        for (int i = 0; i < letters.length; i++) {
-            due("word", x.word(cell, i, letters[i]), 1);
-        }
-        return cell;
-    }
-
-    private static void widths(String what, TableSetter x, int... want) {
-        for (int c = 0; c < want.length; c++) {
-            due(what + ": width(" + c + ")", x.width(c), want[c]);
-        }
-    }
-
-    private static void naturals(String text, TableSetter x, int what, int... want) {
-        for (int c = 0; c < want.length; c++) {
-            due(text + ": natural(" + c + ", " + what + ")", x.natural(c, what), want[c]);
-        }
-    }
-
-    private static void heights(String what, TableSetter x, int... want) {
-        int sum = 0;
-        for (int r = 0; r < want.length; r++) {
-            due(what + ": height(" + r + ")", x.height(r), want[r]);
-            sum += want[r];
-        }
-        due(what + ": count(6)", x.count(6), sum);
-    }
-
-    /** The pages by their rows: as many as told, one behind the other. */
-    private static void rowsOnPages(String what, TableSetter x, int first, int... rows) {
-        due(what + ": count(5)", x.count(5), rows.length);
-        int row = first;
-        for (int p = 0; p < rows.length; p++) {
-            due(what + ": page(" + p + ", 0)", x.page(p, 0), row);
-            due(what + ": page(" + p + ", 1)", x.page(p, 1), rows[p]);
-            row += rows[p];
-        }
-        due(what + ": page(" + rows.length + ", 0)", x.page(rows.length, 0), -9);
-    }
-
-    private static long mix(long... values) {
-        long h = 17;
-        for (long v : values) {
-            h = 31 * h + v;
-        }
-        return h;
-    }
-
+public final class PromiseTests extends Tables {
     private static void constants() {
         due("BAD", TableSetter.BAD, -1);
         due("FULL", TableSetter.FULL, -2);
@@ -351,13 +279,6 @@ public final class PromiseTests {
         Due.found("word of one gone", x, NOTHING, () -> x.word(0, 0, 1));
         Due.found("word, nothing ahead of beyond", x, NOTHING, () -> x.word(0, 3, 1));
         Due.refused("word, bad ahead of nothing", x, -1, () -> x.word(0, 0, 0));
-    }
-
-    private static void pieces(String what, TableSetter x, int cell, int... want) {
-        due(what + ": how many", x.told(cell, 5), want.length);
-        for (int i = 0; i < want.length; i++) {
-            due(what + ": piece " + i, x.word(cell, i, want[i]), want[i]);
-        }
     }
 
     private static void promise13Copy() {
@@ -761,18 +682,6 @@ public final class PromiseTests {
         due("nothing is left", x.page(1, 2), 0);
     }
 
-    /** Rows of told heights, as lines of one letter in a width of 1. */
-    private static TableSetter rowsOf(int... lines) {
-        TableSetter x = of(lines.length, 1, 0);
-        for (int row = 0; row < lines.length; row++) {
-            int[] letters = new int[lines[row]];
-            Arrays.fill(letters, 1);
-            put(x, 0, row, 0, letters);
-        }
-        due("set(1)", x.set(1), Arrays.stream(lines).sum());
-        return x;
-    }
-
     private static void pagesOfLeastWaste() {
         TableSetter x = rowsOf(3, 2, 2, 5, 2, 3);
         due("pages(7)", x.pages(7), 3);
@@ -904,12 +813,6 @@ public final class PromiseTests {
         Due.refused("mayBreak(-1)", x, -1, () -> x.mayBreak(-1));
         Due.refused("mayBreak(9)", x, -1, () -> x.mayBreak(9));
         Due.refused("mayBreak(least)", x, -1, () -> x.mayBreak(LEAST_INT));
-    }
-
-    private static void mayBreaks(String what, TableSetter x, int... want) {
-        for (int row = 0; row < want.length; row++) {
-            due(what + ": mayBreak(" + row + ")", x.mayBreak(row), want[row]);
-        }
     }
 
     private static void promise29Count() {
