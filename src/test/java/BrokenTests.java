@@ -155,22 +155,33 @@ public final class BrokenTests {
         }
     }
 
-    /** How many answers the sentence's test finds wrong in the program that is broken so; below 0: it can't be told. */
+    /** The classes of a program; null, if it does not compile. */
+    private static Map<String, Made> compiled(String program) {
+        Memory memory = new Memory(LIBRARY.get());
+        StringWriter said = new StringWriter();
+        List<String> options = List.of("-proc:none", "-nowarn");
+        if (!COMPILER.getTask(said, memory, null, options, null, List.of(new Source(program))).call()) {
+            System.out.println(said);
+            return null;
+        }
+        return memory.made;
+    }
+
+    /** How many answers the sentence's test finds wrong with these classes. */
+    private static int wrongIn(String sentence, Map<String, Made> made) throws Exception {
+        Method test = new Apart(made).loadClass("Sentences").getDeclaredMethod("wrongIn", String.class);
+        test.setAccessible(true);
+        return (int) test.invoke(null, sentence);
+    }
+
+    /** How many answers it finds wrong in the program that is broken so; below 0: it can't be told. */
     private static int wrongIn(Break b, String program) throws Exception {
         String broken = b.applied(program);
         if (broken == null) {
             return -2;
         }
-        Memory memory = new Memory(LIBRARY.get());
-        StringWriter said = new StringWriter();
-        List<String> options = List.of("-proc:none", "-nowarn");
-        if (!COMPILER.getTask(said, memory, null, options, null, List.of(new Source(broken))).call()) {
-            System.out.println(said);
-            return -3;
-        }
-        Method test = new Apart(memory.made).loadClass("Sentences").getDeclaredMethod("wrongIn", String.class);
-        test.setAccessible(true);
-        return (int) test.invoke(null, b.sentence());
+        Map<String, Made> made = compiled(broken);
+        return made == null ? -3 : wrongIn(b.sentence(), made);
     }
 
     private static int answered(Future<Integer> answer) throws Exception {
@@ -201,16 +212,24 @@ public final class BrokenTests {
         workers.shutdownNow();
     }
 
-    public static void main(String[] args) throws Exception {
-        List<Break> breaks = breaks();
+    /** Each sentence has a break, and its test finds nothing where nothing is broken. */
+    private static void eachHasOne(List<Break> breaks, String program) throws Exception {
         Set<String> named = new HashSet<>();
         for (Break b : breaks) {
             named.add(b.sentence());
         }
+        Map<String, Made> made = compiled(program);
         for (Sentences.Sentence sentence : Sentences.ofTheDocument().tested) {
             Due.due("a break for: " + sentence.name(), named.contains(sentence.name()) ? 1 : 0, 1);
+            Due.due("not broken: " + sentence.name(), wrongIn(sentence.name(), made), 0);
         }
-        run(breaks, Files.readString(PROGRAM));
+    }
+
+    public static void main(String[] args) throws Exception {
+        List<Break> breaks = breaks();
+        String program = Files.readString(PROGRAM);
+        eachHasOne(breaks, program);
+        run(breaks, program);
         System.out.println(breaks.size() + " breaks");
         Due.end();
     }
