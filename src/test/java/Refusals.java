@@ -1,5 +1,8 @@
 import java.util.ArrayList;
 import java.util.List;
+import java.util.Map;
+import java.util.Set;
+import java.util.TreeSet;
 import java.util.function.Supplier;
 import java.util.function.ToLongFunction;
 
@@ -233,6 +236,19 @@ final class Refusals extends Tables {
         for (int f : new int[] {0, 7, -1, LEAST_INT, MOST_INT}) {
             bad("findings(" + f + ")", x -> x.findings(f));
         }
+    }
+
+    /** By what a call is refused in some way: BAD and its like, a finding by its own name. */
+    static Set<String> namesOf(String call) {
+        Map<Integer, String> names = Map.of(BAD, "BAD", FULL, "FULL", STATE, "STATE", SPENT, "SPENT");
+        String[] findings = {"", "NOTHING", "BEYOND", "UNLIKE", "NOUGHT", "SIZE", "CLASH"};
+        Set<String> told = new TreeSet<>();
+        for (Row row : ROWS) {
+            if (row.calls(call)) {
+                told.add(row.finding == 0 ? names.get(row.want) : findings[row.finding]);
+            }
+        }
+        return told;
     }
 
     static void all() {
